@@ -1,3 +1,5 @@
+import java.math.BigInteger;
+
 /** Promises 27 to 30: share, reliability, setSeed, simulate. */
 public final class ChanceTest {
     private static final Check check = new Check();
@@ -14,13 +16,16 @@ public final class ChanceTest {
         seeds();
         simulations();
         simulationOfSixteenEdges();
+        drawnSteps();
         check.end();
     }
 
     private static void shares() {
         check.due("one edge", Check.graph("D201.").share(0), 40320);
         check.due("a loop", Check.graph("D200.").share(0), 0);
-        check.due("one of two alike", Check.graph("D201.01.").share(1), 20160);
+        for (int m = 1; m <= 8; m++) {
+            check.due("one of " + m, Check.graph("D2" + "01.".repeat(m)).share(m - 1), 40320 / m);
+        }
         DyckReachability pair = Check.graph("D401a12A23.");
         check.due("opening bracket", pair.share(0), 20160 + 40320 / 3);
         check.due("closing bracket", pair.share(1), 20160 + 40320 / 3);
@@ -117,7 +122,39 @@ public final class ChanceTest {
         check.due("simulate(1)", x.simulate(1), 3);
         DyckReachability y = Check.graph("D211A11A01.");
         check.due("the first of two alike goes", y.simulate(1), 3);
-        DyckReachability z = Check.graph("D101.".substring(0, 2));
-        check.due("one vertex", z.simulate(40), 40);
+        check.due("one vertex", Check.graph("D1").simulate(40), 40);
+    }
+
+    /** The sum after one step that draws v. */
+    private static void drawn(String text, int v, int want) {
+        BigInteger all = BigInteger.ONE.shiftLeft(64);
+        long seed = BigInteger.valueOf(v).shiftLeft(33)
+                .subtract(new BigInteger("1442695040888963407"))
+                .multiply(new BigInteger("6364136223846793005").modInverse(all))
+                .longValue();
+        DyckReachability x = Check.graph(text);
+        x.setSeed(seed);
+        check.due(text + " simulate(1) that draws " + v, x.simulate(1), want);
+        check.due("the seed then", x.setSeed(0L), (long) v << 33);
+    }
+
+    private static void drawnSteps() {
+        drawn("D2", 8, 3);
+        drawn("D2", 8 + 64, 2);
+        drawn("D2", 8 + 7 * 64, 3);
+        drawn("D201.", 8, 2);
+        drawn("D201.01.", 8, 3);
+        drawn("D201.10.", 8, 3);
+        drawn("D210.", 8, 4);
+        drawn("D201a", 8, 3);
+        drawn("D300.11.", 8 * 2, 4);
+        drawn("D3" + "00a".repeat(15), 8, 4);
+        drawn("D3" + "00a".repeat(16), 8, 3);
+        drawn("D301.12.20.", 8 * 2, 6);
+        // 2147483647 leads from 7 to 7; its label is 33554431 % 7 = 3.
+        drawn("D877c67.", Integer.MAX_VALUE, 9);
+        // 5 + 8 * 6 + 64 * 5 leads from 373 % 7 = 2 to 46 % 7 = 4 with the label 5.
+        drawn("D712b", 5 + 8 * 6 + 64 * 5, 8);
+        drawn("D712b24B", 5 + 8 * 6 + 64 * 5, 7);
     }
 }

@@ -176,6 +176,16 @@ public final class PathsTest {
         check.due("representative(5) with 2", x.representative(5), 0);
         check.due("representative(4)", x.representative(4), 3);
         check.due("pairCount is that of the graph itself", x.pairCount(), 7);
+        for (char kind = 'a'; kind <= 'c'; kind++) {
+            String opening = String.valueOf(kind);
+            String closing = opening.toUpperCase();
+            String[] joined = {"D301" + opening + "21" + opening, "D310" + closing + "12" + closing};
+            String[] apart = {"D310" + opening + "12" + opening, "D301" + closing + "21" + closing};
+            for (int i = 0; i < 2; i++) {
+                check.due(joined[i], Check.graph(joined[i]).representative(2), 0);
+                check.due(apart[i], Check.graph(apart[i]).representative(2), 2);
+            }
+        }
         check.due("full graph", Check.graph("D8" + "70c06C".repeat(8)).representative(7), 6);
     }
 }
