@@ -86,8 +86,8 @@ public final class PathsTest {
         witness("D301.01.", 0, 1, 0);
         // The smaller closing edge lies on a longer path, the greater one on the shortest.
         witness("D401a12A13A23.", 0, 3, 0, 2);
-        // Both closing edges lie on paths of four edges: the smaller one has the longer rest.
         witness("D613A14A43.01a35.", 0, 5, 3, 0, 4);
+        // Two paths of three edges each: the smaller closing edge decides, wherever it stands.
         witness("D614A23A01a12.43.", 0, 3, 2, 0, 4);
         witness("D623A14A01a12.43.", 0, 3, 2, 3, 0);
         // A bracket inside a bracket, and a bracket behind it.
