@@ -161,6 +161,8 @@ public final class PathsTest {
         check.due("undo afterwards", x.undo(), DyckReachability.NOT_POSSIBLE);
         check.due("no edges", Check.graph("D3").criticalEdge(), NONE);
         check.due("no loss at all", Check.graph("D300.11.").criticalEdge(), 0);
+        check.due("all pairs stay without any edge",
+                Check.graph("D8" + "01.12.23.34.45.56.67.70.".repeat(2)).criticalEdge(), 0);
         check.due("the first of equals", Check.graph("D400.01a12A").criticalEdge(), 1);
     }
 
