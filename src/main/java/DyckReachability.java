@@ -667,7 +667,7 @@ public final class DyckReachability {
         }
 
         /** Uses that a balanced path of the length lead leads from one vertex to another. */
-        private boolean shorten(int from, int lead, int next) {
+        boolean shorten(int from, int lead, int next) {
             boolean shorter = false;
             for (int to = 0; to < vertices; to++) {
                 if (reaches(next, to)) {

@@ -102,7 +102,7 @@ public final class ChanceTest {
             check.due("simulate(" + m + ")", x.simulate(m), BAD_VALUE);
         }
         check.due("seed after errors", x.setSeed(0L), 12L);
-        // From the seed 0 the first step draws 167951807: it adds an edge from 2 to 2, label 4.
+        // From the seed 0 the first step draws 167951807: it adds an edge from 2 to 2, label 2.
         check.due("simulate(1)", x.simulate(1), 4);
         check.due("seed after a step", x.setSeed(0L), 1442695040888963407L);
         check.due("edgeCount", x.edgeCount(), 1);
@@ -118,10 +118,10 @@ public final class ChanceTest {
     /** With 16 edges a step that would add one leaves the edges as they are, but it counts. */
     private static void simulationOfSixteenEdges() {
         DyckReachability x = Check.graph("D2" + "01.".repeat(16));
-        // 167951807 is odd, / 8 gives 20993975, also odd, / 64 % 7 gives 4: 1 to 1, label 4.
+        // 167951807 is odd, / 8 gives 20993975, also odd, / 64 % 7 gives 2: 1 to 1, label 2.
         check.due("simulate(1)", x.simulate(1), 3);
-        DyckReachability y = Check.graph("D211A11A01.");
-        check.due("the first of two alike goes", y.simulate(1), 3);
+        DyckReachability y = Check.graph("D211b10B11b");
+        check.due("just one of two alike goes", y.simulate(1), 3);
         check.due("one vertex", Check.graph("D1").simulate(40), 40);
     }
 

@@ -14,6 +14,16 @@ final class Check {
         }
     }
 
+    void same(String what, String got, String want) {
+        asked++;
+        if (!got.equals(want)) {
+            wrong++;
+            if (wrong <= SHOWN) {
+                System.out.println(what + ":\n  it is   " + got + "\n  due is  " + want);
+            }
+        }
+    }
+
     void holds(String what, boolean really) {
         due(what, really ? 1 : 0, 1);
     }

@@ -32,6 +32,7 @@ public final class FaceTest {
         fields();
         nestedClasses();
         words();
+        shortMethods();
         check.end();
     }
 
@@ -43,12 +44,17 @@ public final class FaceTest {
         return s.append(')').toString();
     }
 
-    private static void methods() {
-        Set<String> want = new TreeSet<>(Set.of(FACE));
+    private static Set<String> namesOfTheFace() {
         Set<String> names = new HashSet<>();
         for (String s : FACE) {
             names.add(s.substring(s.indexOf(' ') + 1, s.indexOf('(')));
         }
+        return names;
+    }
+
+    private static void methods() {
+        Set<String> want = new TreeSet<>(Set.of(FACE));
+        Set<String> names = namesOfTheFace();
         Set<String> got = new TreeSet<>();
         for (Method m : DyckReachability.class.getDeclaredMethods()) {
             if (Modifier.isPrivate(m.getModifiers())) {
@@ -103,6 +109,10 @@ public final class FaceTest {
             check.holds(c + " is not public", !Modifier.isPublic(c.getModifiers()));
             check.holds(c + " is not protected", !Modifier.isProtected(c.getModifiers()));
             staticFieldsAreFinal(c);
+            for (Method m : c.getDeclaredMethods()) {
+                check.holds(m + " has its own name", !namesOfTheFace().contains(m.getName()));
+                check.holds(m + " has at most 7 parameters", m.getParameterCount() <= 7);
+            }
         }
     }
 
@@ -117,5 +127,25 @@ public final class FaceTest {
         }
         Matcher loops = Pattern.compile("\\bwhile\\b|for \\(;").matcher(source);
         check.holds("every loop is counted", !loops.find());
+    }
+
+    private static void shortMethods() throws IOException {
+        String header = "";
+        String end = "";
+        int length = 0;
+        int methods = 0;
+        for (String line : Files.readAllLines(Path.of(SOURCE))) {
+            length++;
+            if (line.matches(" {4}( {4})?(?!if|for|switch)[\\w\\[\\]][^=;]*\\) \\{")) {
+                header = line.trim();
+                end = line.substring(0, line.indexOf(header)) + "}";
+                length = 1;
+            } else if (line.equals(end)) {
+                check.holds(header + " has " + length + " lines", length <= 60);
+                methods++;
+                end = "";
+            }
+        }
+        check.holds("methods were read: " + methods, methods > FACE.length);
     }
 }
