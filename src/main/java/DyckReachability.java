@@ -617,7 +617,8 @@ public final class DyckReachability {
         }
 
         int between(int u, int v) {
-            return table[MOST_VERTICES * u + v];
+            int pair = MOST_VERTICES * u + v;
+            return pair >= 0 && pair < PAIRS ? table[pair] : UNREACHED;
         }
 
         boolean reaches(int u, int v) {
@@ -625,7 +626,7 @@ public final class DyckReachability {
         }
 
         void measure(Edges edges, int vertexTotal) {
-            vertices = vertexTotal;
+            vertices = Math.min(vertexTotal, MOST_VERTICES);
             for (int pair = 0; pair < PAIRS; pair++) {
                 table[pair] = UNREACHED;
             }
@@ -668,6 +669,9 @@ public final class DyckReachability {
 
         /** Uses that a balanced path of the length lead leads from one vertex to another. */
         boolean shorten(int from, int lead, int next) {
+            if (!isVertexNumber(from)) {
+                return false;
+            }
             boolean shorter = false;
             for (int to = 0; to < vertices; to++) {
                 if (reaches(next, to)) {

@@ -15,6 +15,8 @@ import java.util.regex.Pattern;
 public final class FaceTest {
     private static final Check check = new Check();
     private static final String SOURCE = "src/main/java/DyckReachability.java";
+    private static final Set<Class<?>> STATIC_TYPES = Set.of(int.class, long.class, boolean.class,
+            char.class, String.class, int[].class, long[].class, char[].class, byte[].class);
     private static final String[] FACE = {
         "int append(int)", "int clearText()", "int errorPosition()", "int load()",
         "int vertexCount()", "int edgeCount()", "int source(int)", "int target(int)",
@@ -96,6 +98,8 @@ public final class FaceTest {
             boolean isStatic = Modifier.isStatic(f.getModifiers());
             check.holds(c + " " + f.getName() + " is final if it is static",
                     !isStatic || Modifier.isFinal(f.getModifiers()));
+            check.holds(c + " " + f.getName() + " may be static",
+                    !isStatic || STATIC_TYPES.contains(f.getType()));
             own += isStatic ? 0 : 1;
         }
         check.holds(c + " has at most 20 fields", own <= 20);

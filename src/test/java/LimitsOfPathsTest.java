@@ -14,6 +14,7 @@ public final class LimitsOfPathsTest {
         pairsWithThemselves();
         anEdgeAnyNumberOfTimes();
         distancesOfAMillion();
+        distancesOfNoVertices();
         depthOfTheEmptyWord();
         depthIsTheGreatestNumberOpen();
         depthIsTheSmallestOfAllPaths();
@@ -98,6 +99,21 @@ public final class LimitsOfPathsTest {
             check.due(told + "the witness", distances.edgeOnWitness(edges, 0, 2, 0),
                     length + 1 < 1000000 ? 0 : NONE);
             check.holds(told + "2 does not reach 0", !distances.reaches(2, 0));
+        }
+    }
+
+    /** LANGUAGE.md, rule 7: "an index is looked at before it is used", by the table itself too. */
+    private static void distancesOfNoVertices() {
+        DyckReachability.Edges edges = new DyckReachability.Edges(16);
+        edges.put(0, 7, 0);
+        DyckReachability.Distances distances = new DyckReachability.Distances();
+        distances.measure(edges, 9);
+        check.due("from 7 to 7", distances.between(7, 7), 0);
+        check.due("from 0 to 7", distances.between(0, 7), 1);
+        for (int v : new int[] {-9, -8, 8, 9, 1000, -1000}) {
+            check.holds(v + " does not reach 7", !distances.reaches(v, 7));
+            check.holds("no path is told from " + v, !distances.shorten(v, 1, 7));
+            check.holds("no path is told to " + v, !distances.shorten(7, 1, v));
         }
     }
 
